@@ -24,8 +24,8 @@ public final class BathWater {
     private static final int DAMP_LIMIT = 30;
     private static final int DAMP_STEPS = 9;
 
-    private static final int UNIT_LIMIT = 60;
-    private static final int UNITS_IN_ONE = 30;
+    /** In one e; as likes is told once, there are never 60 in all. */
+    private static final int UNIT_LIMIT = 30;
     private static final int DEPTH_LIMIT = 7;
     /** Thirty units, as many signs between them, and seven nots ahead of each fit well. */
     private static final int CODE_LIMIT = 320;
@@ -613,23 +613,15 @@ public final class BathWater {
         if (!isSwimmer(swimmer) || !isAhead(n) || !within(times, 0, AHEAD_LIMIT)) {
             return NONE;
         }
-        for (int manners = 0; manners <= MANNERS_LIMIT; manners++) {
-            if (earnsBy(manners, swimmer, n, times)) {
+        for (int manners = 0; manners <= MANNERS_LIMIT && times <= n; manners++) {
+            lookAhead();
+            course.scene.manners[swimmer] = manners;
+            course.goOn(n);
+            if (course.swims[swimmer] >= times) {
                 return manners;
             }
         }
         return NONE;
-    }
-
-    private boolean earnsBy(int manners, int swimmer, int n, int times) {
-        lookAhead();
-        course.scene.manners[swimmer] = manners;
-        int often = 0;
-        for (int left = n; left > 0 && often < times && often + left >= times; left--) {
-            course.go(false);
-            often = course.swims[swimmer];
-        }
-        return often >= times;
     }
 
     /** Promise 28. */
@@ -1159,7 +1151,7 @@ public final class BathWater {
 
         void clear() {
             first.clear();
-            likes.beDefault();
+            likes.clear();
             spots = 6;
             flow = 9;
             swimmers = 0;
@@ -1174,19 +1166,15 @@ public final class BathWater {
         private final int[] numbers = new int[CODE_LIMIT];
         private final int[] stack = new int[UNIT_LIMIT];
         private int length;
+        /** None: likes is not told. */
         int units;
+        /** Does it look at what each STEP changes, even if no WATER goes? */
+        boolean restless;
 
         void clear() {
             length = 0;
             units = 0;
-        }
-
-        /** manners - far. */
-        void beDefault() {
-            clear();
-            add(MANNERS, 0);
-            add(FAR, 0);
-            add(MINUS, 0);
+            restless = false;
         }
 
         void add(int token, int number) {
@@ -1195,10 +1183,14 @@ public final class BathWater {
                 numbers[length] = number;
                 length++;
             }
+            restless = restless || token == SWUM || token == STEP;
         }
 
         /** The facts stand at the TOKENS that name them. */
         int result(int[] facts) {
+            if (units == 0) {
+                return facts[MANNERS] - facts[FAR];
+            }
             int top = 0;
             for (int i = 0; i < length; i++) {
                 int token = code[i];
@@ -1426,9 +1418,24 @@ public final class BathWater {
         }
 
         void goOn(int n) {
-            for (int i = 0; i < n; i++) {
+            for (int left = n - 1; left >= 0; left--) {
                 go(false);
+                if (!moving && !plan.likes.restless) {
+                    goAlike(left);
+                    return;
+                }
             }
+        }
+
+        /** Where nothing changes any more, all STEPS are as the latest one: there is no need to make them. */
+        private void goAlike(int times) {
+            for (int who = 0; who < plan.swimmers; who++) {
+                if ((swimming >> who & 1) != 0) {
+                    swims[who] += times;
+                    scene.swam[who] = Math.min(SWAM_LIMIT, scene.swam[who] + times);
+                }
+            }
+            scene.steps += times;
         }
 
         /** A STEP in earnest. */
@@ -1748,7 +1755,6 @@ public final class BathWater {
                     readSwimmer();
                     break;
                 case LIKES:
-                    plan.likes.clear();
                     readEither(0);
                     break;
                 case GALA:
@@ -1872,7 +1878,7 @@ public final class BathWater {
         }
 
         private void readUnit(int depth) {
-            boolean tooMany = plan.likes.units >= UNITS_IN_ONE || plan.likes.units >= UNIT_LIMIT;
+            boolean tooMany = plan.likes.units >= UNIT_LIMIT;
             boolean tooDeep = token == OPEN && depth >= DEPTH_LIMIT;
             if (!isUnitStart() || tooMany || tooDeep) {
                 refuse(FAULT_MISPLACED);
