@@ -95,12 +95,11 @@ public final class BathWater {
     private final Damps damps = new Damps();
     private int time;
 
-    /** Promise 1. */
+    /** Promise 1: new scenes and plans are those of an empty BATH. */
     public BathWater() {
         for (int i = 0; i < BOX_LIMIT; i++) {
             boxes[i] = new Scene();
         }
-        beginAnew();
     }
 
     // ---- the text ----

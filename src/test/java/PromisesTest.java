@@ -137,6 +137,19 @@ public final class PromisesTest {
         none.step();
         due("not less than gala tells", none.spot(1, 0), 2);
         due("wants nothing", Texts.bath("swimmer a manners 1 wants 0 at 3;swimmer b manners 1;").step(), 1);
+        BathWater last = Texts.bath("pool 2 flow 1;water 9 at 1;swimmer a manners 5 wants 0 at 0;likes step>998;");
+        for (int i = 1; i <= 999; i++) {
+            due("step " + i, last.step(), 1);
+        }
+        due("behind the last one", last.step(), -1);
+        due("steps", last.about(5), 999);
+        due("what lies ahead goes on", last.will(0, 3, 0), 3);
+        due("swam", last.swimmer(0, 3), 999);
+        BathWater often = Texts.bath("pool 2 flow 1;water 9 at 1;swimmer a manners 5 wants 0 at 0;likes swum>998;");
+        for (int i = 1; i <= 999; i++) {
+            often.step();
+        }
+        due("999 at most", often.will(0, 3, 0), 3);
         promise = 10;
         BathWater y = plain();
         due("stands there", y.stand(0, 2), -2);
@@ -313,6 +326,8 @@ public final class PromisesTest {
         due("no what", x.race(1, 2), -1);
         due("no what", x.race(1, -1), -1);
         due("nobody", Texts.bath("swimmer a manners 5 at 0;").race(1, 0), -1);
+        due("behind 60", Texts.bath("pool 2 flow 1;water 60 at 1;swimmer a manners 9 wants 60 at 0;").race(1, 1), 60);
+        due("behind 61", Texts.bath("pool 2 flow 1;water 61 at 1;swimmer a manners 9 wants 61 at 0;").race(1, 1), -1);
         due("of like ones the first", Texts.bath("swimmer a manners 5 wants 0 at 0;swimmer b manners 6 wants 0 at 1;").race(3, 0), 0);
         promise = 34;
         due("now", x.flood(0, 7), 0);
@@ -383,6 +398,8 @@ public final class PromisesTest {
         due("no spot", x.court(0, -1), -1);
         due("out", Texts.bath("swimmer a manners 5;").court(0, 0), -1);
         due("none is enough", Texts.bath("swimmer a manners 5 at 0;likes 0-manners;").court(0, 0), -1);
+        due("99 is enough", Texts.bath("swimmer a manners 5 at 0;likes manners>98;").court(0, 0), 99);
+        due("99 is not enough", Texts.bath("swimmer a manners 5 at 0;likes manners>99;").court(0, 0), -1);
         due("less would do", Texts.bath("swimmer a manners 5 at 0;likes 3-manners;").court(0, 0), 0);
     }
 
@@ -415,6 +432,13 @@ public final class PromisesTest {
         for (int i = 0; i < 5; i++) {
             due("of like ones the first", z.lies(i), i);
         }
+        // one more at SPOT 0 at each turn: the last one told must have it first, and so on
+        BathWater v = Texts.bath("pool 2 flow 1;water 9 at 1;swimmer a manners 9 wants 5;swimmer b manners 9 wants 4;"
+            + "swimmer c manners 9 wants 3;swimmer d manners 9 wants 2;swimmer e manners 9 wants 1;");
+        due("the last order", v.orders(1), 5);
+        for (int i = 0; i < 5; i++) {
+            due("the last order", v.lies(i), 4 - i);
+        }
         BathWater w = Texts.bath("pool 2 flow 1;water 9 at 0;swimmer a manners 9 wants 9;swimmer b manners 9 wants 9;"
             + "swimmer c manners 9 wants 9;likes wants;");
         due("all stay", w.orders(2), 6);
@@ -438,6 +462,8 @@ public final class PromisesTest {
         due("no swimmer", y.duel(0, 2, 1), -1);
         due("no swimmer", y.duel(-1, 0, 1), -1);
         due("99 at most", Texts.bath(String.format(middle, 97, 97)).duel(0, 1, 1), 0);
+        due("99 can be", Texts.bath(String.format(middle, 98, 98)).duel(0, 1, 1), 0);
+        due("100 can't", Texts.bath(String.format(middle, 99, 99)).duel(0, 1, 1), 1);
         due("the other wins", Texts.bath(String.format(middle, 90, 96)).duel(0, 1, 1), 1);
         BathWater z = Texts.bath("water 9 at 2;swimmer a manners 1 at 0;swimmer b manners 0 at 5;swimmer c manners 9;");
         due("one makes more", z.duel(0, 1, 2), 1);
@@ -469,6 +495,9 @@ public final class PromisesTest {
         due("none in none", q.earn(0, 0, 0), 0);
         due("none in none", q.earn(0, 0, 1), -1);
         due("too often", q.earn(0, 60, 61), -1);
+        String shy = "pool 2;water 5 at 1;swimmer a manners 5 at 0;likes manners>";
+        due("99 is enough", Texts.bath(shy + "98;").earn(0, 60, 60), 99);
+        due("99 is not enough", Texts.bath(shy + "99;").earn(0, 60, 60), -1);
         due("below 0", q.earn(0, 5, -1), -1);
         due("too far", q.earn(0, 61, 1), -1);
         due("behind", q.earn(0, -1, 0), -1);
@@ -712,6 +741,15 @@ public final class PromisesTest {
         due("without swimmers", z.fits(0), 0);
         promise = 49;
         due("without swimmers", z.sure(0, 0), -1);
+        BathWater shy = Texts.bath("pool 2;water 5 at 1;swimmer a manners 5 at 0;likes manners>98;");
+        shy.damp(1, 0, 5, true);
+        due("99 alone", shy.sure(0, 0), 99);
+        due("99 alone", shy.sure(1, 0), 99);
+        BathWater rude = Texts.bath("pool 2;water 5 at 1;swimmer a manners 5 at 0;likes manners<1;");
+        rude.damp(9, 0, 5, true);
+        due("0 alone", rude.sure(0, 0), 0);
+        due("0 alone", rude.sure(1, 0), 0);
+        due("one is left", rude.ask(9, 1, 0), 1);
     }
 
     private static void images() {

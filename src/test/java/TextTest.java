@@ -190,6 +190,30 @@ public final class TextTest {
         faultAt("likes not (not (not (not @(1))));", 2);
         faultAt("likes not (not (not (not @not 1)));", 2);
         good("likes " + ("not ".repeat(7) + "1 and ").repeat(29) + "1;");
+        fault(";".repeat(1600), 2, 0);
+        fault("likes " + "(".repeat(1594), 2, 13);
+        good(" ".repeat(1593) + "pool 5;");
+        // as much as can stand at once: five signs wait for what is in the brackets, five times
+        BathWater deep = Texts.bath("swimmer a manners 1 at 0;likes " + "0 or 1 and 1<2+1*(".repeat(5) + ")".repeat(5) + ";");
+        due("a bracket with nothing in it", deep.fault(0), 2);
+        deep = Texts.bath("swimmer a manners 1 at 0;likes " + "0 or 1 and 1<2+1*(".repeat(4) + "0 or 1 and 1<2+1*3" + ")".repeat(4) + ";");
+        due("a deep one", deep.about(12), 30);
+        due("a deep one", deep.liking(0, 0), 1);
+        manyBaths();
+    }
+
+    /** What a former likes was is no matter, however often a BATH is told anew. */
+    private static void manyBaths() {
+        BathWater x = new BathWater();
+        for (int i = 0; i < 20; i++) {
+            Texts.feed(x, "swimmer a manners 9 at 0;likes " + "1+".repeat(29) + i + ";");
+            due("bath", x.bath(), 1);
+            due("liking", x.liking(0, 0), 29 + i);
+        }
+        Texts.feed(x, "swimmer a manners 9 at 0;");
+        due("bath", x.bath(), 1);
+        due("not told", x.liking(0, 2), 7);
+        due("no units", x.about(12), 0);
     }
 
     private static void formulas() {
@@ -252,6 +276,11 @@ public final class TextTest {
         value("1+1=2", 1);
         value("(1=1)+1", 2);
         value("7 or 0", 1);
+        value("0 or 7", 1);
+        value("1 or 0", 1);
+        value("0 and 7", 0);
+        value("1 and 1", 1);
+        value("1 and 0", 0);
         value("0 or 0", 0);
         value("7 and 9", 1);
         value("7 and 0", 0);
