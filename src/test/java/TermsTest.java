@@ -79,6 +79,8 @@ public final class TermsTest {
         edges.answers(full, 5, "about", 1);
         faultAt(" ".repeat(1599) + "@?", 1);
         faultAt(" ".repeat(1594) + "pool 5@", 2);
+        faultAt("@" + ";".repeat(1600), 2);
+        faultAt("likes " + "(".repeat(7) + "@" + "(".repeat(1587), 2);
         edges.answers(fedWith(1600), -1, "feed", 0, 0, 0, 0, 0);
     }
 
@@ -219,6 +221,13 @@ public final class TermsTest {
         faultAt("pool 12;water 1 at @12;", 4);
         faultAt("water 1 at 3;water 1 at @3;", 3);
         faultAt("water 0 at 3;water 0 at @3;", 3);
+        // twelve are told anew with each BATH
+        BathWater x = new BathWater();
+        for (int i = 0; i < 3; i++) {
+            Texts.feed(x, waters(12));
+            edges.answers(x, 0, "bath");
+            edges.answers(x, 78, "about", 4);
+        }
     }
 
     private static String swimmers(int many) {
@@ -788,6 +797,21 @@ public final class TermsTest {
         up.duel(0, 1, 1);
         edges.answers(up, 1, "lies", 0);
         edges.answers(up, 0, "lies", 1);
+        // what could be made in a former DUEL is no matter
+        up.teach(0, 90);
+        edges.answers(up, 1, "duel", 0, 1, 1);
+        up.teach(0, 99);
+        up.drain(1, 8);
+        edges.answers(up, 1, "duel", 0, 1, 1);
+        edges.answers(up, 0, "lies", 0);
+        up.teach(1, 90);
+        up.pour(1, 8);
+        up.teach(0, 50);
+        edges.answers(up, 1, "duel", 0, 1, 1);
+        up.teach(1, 99);
+        up.drain(1, 8);
+        edges.answers(up, 1, "duel", 0, 1, 1);
+        edges.answers(up, 0, "lies", 1);
     }
 
     private void numbersOfNow() {
@@ -918,5 +942,15 @@ public final class TermsTest {
         BathWater last = bath("pool 12 flow 99;water 1 at 10;water 1 at 9;water 1 at 8;swimmer a manners 0 at 11;likes manners-far*25;");
         edges.answers(last, 11, "ask", 9, 0, 0);
         edges.answers(last, 26, "ask", 9, 1, 0);
+        // all the WATER that can be told comes to SPOT 6 by 40 and more
+        StringBuilder most = new StringBuilder("pool 12 flow 99;");
+        for (int spot = 0; spot < 12; spot++) {
+            most.append("water 99 at ").append(spot).append(';');
+        }
+        BathWater all = bath(most + "swimmer a manners 0 at 6;likes manners>39;");
+        edges.answers(all, 0, "ask", 9, 0, 0);
+        edges.answers(all, 60, "ask", 9, 1, 0);
+        all.teach(0, 40);
+        edges.answers(all, 1188, "will", 6, 9, 0);
     }
 }
