@@ -404,18 +404,20 @@ public final class BathWater {
         }
         int best = NONE;
         int most = NONE;
-        for (int pair = 0; pair < plan.spots * plan.spots; pair++) {
-            int often = oftenTogether(swimmer, other, pair, n);
-            if (often > most) {
-                most = often;
-                best = pair;
+        for (int pair = 0; pair < SPOT_LIMIT * SPOT_LIMIT; pair++) {
+            if (isSpot(pair / SPOT_LIMIT) && isSpot(pair % SPOT_LIMIT)) {
+                int often = oftenTogether(swimmer, other, pair, n);
+                if (often > most) {
+                    most = often;
+                    best = pair;
+                }
             }
         }
         switch (what) {
             case 0:
-                return best / plan.spots;
+                return best / SPOT_LIMIT;
             case 1:
-                return best % plan.spots;
+                return best % SPOT_LIMIT;
             default:
                 return most;
         }
@@ -427,8 +429,8 @@ public final class BathWater {
 
     private int oftenTogether(int swimmer, int other, int pair, int n) {
         lookAhead();
-        course.scene.place[swimmer] = pair / plan.spots;
-        course.scene.place[other] = pair % plan.spots;
+        course.scene.place[swimmer] = pair / SPOT_LIMIT;
+        course.scene.place[other] = pair % SPOT_LIMIT;
         course.goOn(n);
         return course.swims[swimmer] + course.swims[other];
     }
