@@ -26,6 +26,7 @@ public final class TermsTest {
         test.places();
         test.faultTwo();
         test.faultsThreeAndFour();
+        test.atFirst();
         test.likingFacts();
         test.likingSigns();
         test.prefers();
@@ -410,6 +411,29 @@ public final class TermsTest {
     }
 
     // ---- ==== 2 ----
+
+    private void atFirst() {
+        edges.term("A SPOT has so much WATER (as told, else 0, at first). A SWIMMER has MANNERS (as told, at first), "
+            + "SWAM so often (0 at first)");
+        BathWater x = bath("pool 3;water 99 at 1;water 0 at 2;swimmer a manners 0 wants 0 at 1;swimmer b manners 99;");
+        int[] water = {0, 99, 0};
+        for (int spot = 0; spot < 3; spot++) {
+            edges.answers(x, water[spot], "spot", spot, 0);
+        }
+        edges.answers(x, 0, "swimmer", 0, 1);
+        edges.answers(x, 99, "swimmer", 1, 1);
+        edges.answers(x, 0, "swimmer", 0, 3);
+        edges.answers(x, 0, "about", 5);
+        // a BATH told anew is as at first
+        x.step();
+        x.step();
+        edges.answers(x, 2, "swimmer", 0, 3);
+        Texts.feed(x, "swimmer a manners 0 wants 0 at 1;");
+        x.bath();
+        edges.answers(x, 0, "swimmer", 0, 3);
+        edges.answers(x, 0, "spot", 1, 0);
+        edges.answers(x, 0, "about", 5);
+    }
 
     private BathWater one(String likes) {
         return bath("pool 12 flow 1;water 13 at 11;water 4 at 0;swimmer a manners 41 wants 5 at 11;likes " + likes + ";");
